@@ -12,6 +12,8 @@ public final class ArithmeticRows {
     private static final int SET_SIZE = 512;
     private static final int MOST_KEPT = 6;
     private static final int FULL_FOR_FEEDING = 4000;
+    // A is 1 at least, so 15 doublings bring it to 8000; the bound only makes the end plain to see.
+    private static final int MOST_RENEWALS = 16;
 
     // The kinds of sizes of whole numbers; their prefixes are 0, 10, 110, 1110, 11110, 11111.
     private static final int[] PREFIX = {0, 2, 6, 14, 30, 31};
@@ -325,15 +327,13 @@ public final class ArithmeticRows {
             return segment >= 0 && segment < segments && plain[segment];
         }
 
-        boolean beginSegment(boolean asTheyAre) {
-            if (segments < 1 || segments >= MOST_SEGMENTS) {
-                return false;
+        void beginSegment(boolean asTheyAre) {
+            if (segments >= 0 && segments < MOST_SEGMENTS) {
+                starts[segments] = size;
+                plain[segments] = asTheyAre;
+                lastStart = size;
+                segments++;
             }
-            starts[segments] = size;
-            plain[segments] = asTheyAre;
-            lastStart = size;
-            segments++;
-            return true;
         }
 
         int startOf(int segment) {
@@ -378,8 +378,6 @@ public final class ArithmeticRows {
 
     /** What puts bits into the last segment. */
     private static final class Encoder {
-        private static final int MOST_RENEWALS = 16;
-
         private final Row row;
         private boolean plain;
         private int a;
@@ -516,8 +514,6 @@ public final class ArithmeticRows {
 
     /** What reads bits of the segment at hand. */
     private static final class Decoder {
-        private static final int MOST_RENEWALS = 16;
-
         private final Row row;
         private int segment;
         private boolean plain;
