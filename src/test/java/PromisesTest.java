@@ -4,39 +4,6 @@ public final class PromisesTest {
         Check.due(what, got, want);
     }
 
-    private static ArithmeticRows coded(int contexts, int... bits) {
-        ArithmeticRows x = new ArithmeticRows(contexts);
-        for (int bit : bits) {
-            x.encode(0, bit);
-        }
-        return x;
-    }
-
-    private static ArithmeticRows rawBits(String bits) {
-        ArithmeticRows x = new ArithmeticRows(1);
-        x.raw(true);
-        for (char bit : bits.toCharArray()) {
-            x.encode(0, bit - '0');
-        }
-        return x;
-    }
-
-    private static String bytes(ArithmeticRows x, int from, int to) {
-        StringBuilder text = new StringBuilder();
-        for (int i = from; i < to; i++) {
-            text.append(String.format("%02x", x.byteAt(i)));
-        }
-        return text.toString();
-    }
-
-    private static String decoded(ArithmeticRows x, int bits) {
-        StringBuilder text = new StringBuilder();
-        for (int i = 0; i < bits; i++) {
-            text.append(x.decode(0));
-        }
-        return text.toString();
-    }
-
     private static void promise1() {
         int[][] madeAndDue = {
             {1, 1}, {2, 2}, {65536, 65536}, {65535, 65535}, {65537, 65536}, {Integer.MAX_VALUE, 65536},
@@ -110,22 +77,22 @@ public final class PromisesTest {
     private static void promise3() {
         ArithmeticRows x = new ArithmeticRows(1);
         due("finish() of nothing", x.finish(), 2);
-        due("its bytes", bytes(x, 0, 2), "ff7f");
+        due("its bytes", Play.bytes(x, 0, 2), "ff7f");
         Check.notNow("finish() again", x::finish);
-        due("its bytes again", bytes(x, 0, 2), "ff7f");
+        due("its bytes again", Play.bytes(x, 0, 2), "ff7f");
         Check.noContext("byteAt(2)", () -> x.byteAt(2));
-        ArithmeticRows y = coded(1, 1, 0, 1);
+        ArithmeticRows y = Play.coded(1, "AaA");
         y.raw(true);
         y.encode(0, 0);
         y.encode(0, 1);
         y.finish();
-        due("it reads from the first segment on", decoded(y, 3), "101");
+        due("it reads from the first segment on", Play.readBits(y, 3), "101");
         due("and the next one", y.raw(true), true);
-        due("raw bits", decoded(y, 2), "01");
-        ArithmeticRows z = rawBits("");
+        due("raw bits", Play.readBits(y, 2), "01");
+        ArithmeticRows z = Play.rawBits("");
         due("an empty raw segment", z.finish(), 2);
-        due("a last byte ff goes", rawBits("11111111").finish(), 2);
-        due("with a byte before it", rawBits("0000000011111111").finish(), 3);
+        due("a last byte ff goes", Play.rawBits("11111111").finish(), 2);
+        due("with a byte before it", Play.rawBits("0000000011111111").finish(), 3);
     }
 
     /** A coded segment whose last byte would be ff loses it. */
@@ -147,14 +114,14 @@ public final class PromisesTest {
     }
 
     private static void promise4() {
-        ArithmeticRows x = rawBits("101010101111");
-        due("the coded segment's bytes, and the full one", bytes(x, 0, 3), "ff7faa");
+        ArithmeticRows x = Play.rawBits("101010101111");
+        due("the coded segment's bytes, and the full one", Play.bytes(x, 0, 3), "ff7faa");
         Check.noContext("a byte that is begun", () -> x.byteAt(3));
         Check.noContext("byteAt(-1)", () -> x.byteAt(-1));
         Check.noContext("byteAt(least)", () -> x.byteAt(Integer.MIN_VALUE));
         Check.noContext("byteAt(greatest)", () -> x.byteAt(Integer.MAX_VALUE));
         due("finish()", x.finish(), 4);
-        due("it is filled with 0, 1 ..", bytes(x, 0, 4), "ff7faaf5");
+        due("it is filled with 0, 1 ..", Play.bytes(x, 0, 4), "ff7faaf5");
         Check.noContext("byteAt(4)", () -> x.byteAt(4));
         x.feed(9);
         due("a byte that was fed", x.byteAt(4), 9);
@@ -171,19 +138,19 @@ public final class PromisesTest {
         Check.noNumber("feed(least)", () -> x.feed(Integer.MIN_VALUE));
         due("feed(0)", x.feed(0), true);
         due("feed(255)", x.feed(255), true);
-        due("the row", bytes(x, 0, 4), "ff7f00ff");
+        due("the row", Play.bytes(x, 0, 4), "ff7f00ff");
         Check.noContext("a call that throws reads nothing", () -> x.decode(2));
         due("raw(true) goes nowhere", x.raw(true), false);
         due("feed(7)", x.feed(7), true);
         x.decode(0);
         Check.notNow("read: feed(1)", () -> x.feed(1));
         Check.notNow("read: feed(300)", () -> x.feed(300));
-        ArithmeticRows y = rawBits("1");
+        ArithmeticRows y = Play.rawBits("1");
         y.finish();
         due("feed behind the last segment", y.feed(0xc3), true);
         due("raw(true)", y.raw(true), true);
         Check.notNow("left: feed(1)", () -> y.feed(1));
-        due("the last segment has it", decoded(y, 16), "1010101011000011");
+        due("the last segment has it", Play.readBits(y, 16), "1010101011000011");
         due("and no more", y.beyond(), 0);
         ArithmeticRows z = new ArithmeticRows(1);
         z.finish();
@@ -205,37 +172,37 @@ public final class PromisesTest {
     }
 
     private static void promise6() {
-        ArithmeticRows x = coded(2, 1, 1, 0, 1, 0, 0, 0, 1);
+        ArithmeticRows x = Play.coded(2, "AAaAaaaA");
         Check.notNow("encoding decode(0)", () -> x.decode(0));
         Check.noContext("encoding decode(2)", () -> x.decode(2));
         int all = x.finish();
         Check.noContext("decode(2)", () -> x.decode(2));
         Check.noContext("decode(-1)", () -> x.decode(-1));
-        due("the bits", decoded(x, 8), "11010001");
+        due("the bits", Play.readBits(x, 8), "11010001");
         due("the decoder's state is the encoder's", x.state(1, 0), x.state(0, 0));
         for (int i = 0; i < 100; i++) {
             int bit = x.decode(1);
             due("a bit past the end", bit == 0 || bit == 1, true);
         }
         due("all bytes stay", x.byteAt(all - 1) >= 0, true);
-        ArithmeticRows y = rawBits("");
+        ArithmeticRows y = Play.rawBits("");
         y.finish();
         y.raw(true);
-        due("raw bits past the end", decoded(y, 20), "11111111111111111111");
-        ArithmeticRows z = rawBits("1111111101");
+        due("raw bits past the end", Play.readBits(y, 20), "11111111111111111111");
+        ArithmeticRows z = Play.rawBits("1111111101");
         z.finish();
         z.raw(true);
         Check.noContext("raw decode(1)", () -> z.decode(1));
-        due("a bit 0 is left out behind ff", decoded(z, 15), "111111110101010");
+        due("a bit 0 is left out behind ff", Play.readBits(z, 15), "111111110101010");
         due("raw leaves the context", z.state(1, 0), 0);
         // Fed bytes behind ff lose their highest bit even if it is 1.
-        ArithmeticRows w = rawBits("");
+        ArithmeticRows w = Play.rawBits("");
         w.finish();
         w.feed(0xff);
         w.feed(0x80);
         w.feed(0x81);
         w.raw(true);
-        due("fed raw bits", decoded(w, 23), "11111111000000010000001");
+        due("fed raw bits", Play.readBits(w, 23), "11111111000000010000001");
     }
 
     private static void promise7() {
@@ -295,7 +262,7 @@ public final class PromisesTest {
             due("raw whole(0, " + v + ")", y.whole(0, v), bits.length());
             y.finish();
             y.raw(true);
-            due("bits of " + v, decoded(y, bits.length()), bits);
+            due("bits of " + v, Play.readBits(y, bits.length()), bits);
         }
         ArithmeticRows z = new ArithmeticRows(1);
         z.raw(true);
@@ -303,7 +270,7 @@ public final class PromisesTest {
         z.whole(0, 5);
         z.finish();
         z.raw(true);
-        due("bits of -3 and 5", decoded(z, 11), "1011" + "0100001");
+        due("bits of -3 and 5", Play.readBits(z, 11), "1011" + "0100001");
     }
 
     private static void promise9() {
@@ -327,7 +294,7 @@ public final class PromisesTest {
     }
 
     private static int readRaw(String bits) {
-        ArithmeticRows x = rawBits(bits);
+        ArithmeticRows x = Play.rawBits(bits);
         x.finish();
         x.raw(true);
         return x.readWhole(0);
@@ -406,7 +373,7 @@ public final class PromisesTest {
         }
         int all = x.finish();
         due("as many bytes", all, y.finish());
-        due("the same bytes", bytes(x, 0, all), bytes(y, 0, all));
+        due("the same bytes", Play.bytes(x, 0, all), Play.bytes(y, 0, all));
         for (int k = 0; k < 60; k++) {
             x.back(0);
             due("readWhole(0)", x.readWhole(0), 1234);
@@ -450,7 +417,7 @@ public final class PromisesTest {
         due("contexts stay", x.state(1, 0), was);
         due("a raw bit", x.decode(0), 1);
         due("the next one is not raw", x.raw(true), false);
-        due("the next raw bits", decoded(x, 3), "010");
+        due("the next raw bits", Play.readBits(x, 3), "010");
         due("to coded", x.raw(false), true);
         due("its bit", x.decode(0), 1);
         due("to raw", x.raw(true), true);
@@ -468,7 +435,7 @@ public final class PromisesTest {
             due("raw, call " + k, x.raw(k % 2 == 1), true);
         }
         due("finish()", x.finish(), 512);
-        due("the last bytes", bytes(x, 508, 512), "ff7fff7f");
+        due("the last bytes", Play.bytes(x, 508, 512), "ff7fff7f");
         for (int k = 1; k <= 511; k++) {
             due("decoding raw, call " + k, x.raw(k % 2 == 1), true);
         }
@@ -476,7 +443,7 @@ public final class PromisesTest {
     }
 
     private static void promise13() {
-        ArithmeticRows x = coded(1, 0, 1, 1);
+        ArithmeticRows x = Play.coded(1, "aAA");
         due("encoding beyond()", x.beyond(), 0);
         x.raw(true);
         x.finish();
@@ -502,17 +469,17 @@ public final class PromisesTest {
             y.decode(0);
         }
         due("none behind an ff of its own", y.beyond(), 0);
-        ArithmeticRows z = rawBits("11110000");
+        ArithmeticRows z = Play.rawBits("11110000");
         z.finish();
         z.raw(true);
-        decoded(z, 8);
+        Play.readBits(z, 8);
         due("raw, all of its own", z.beyond(), 0);
         z.decode(0);
         due("raw, one more", z.beyond(), 1);
     }
 
     private static void promise14() {
-        ArithmeticRows x = coded(2, 1, 0, 1, 1);
+        ArithmeticRows x = Play.coded(2, "AaAA");
         x.whole(0, 77);
         x.save();
         x.raw(true);
@@ -545,7 +512,7 @@ public final class PromisesTest {
         }
         int all = fresh.finish();
         due("reset: finish()", x.finish(), all);
-        due("reset: the bytes", bytes(x, 0, all), bytes(fresh, 0, all));
+        due("reset: the bytes", Play.bytes(x, 0, all), Play.bytes(fresh, 0, all));
         for (int k = 0; k < 30; k++) {
             due("reset: decode", x.decode(k & 1), k % 3 & 1);
             due("reset: readWhole", x.readWhole(0), 77);
