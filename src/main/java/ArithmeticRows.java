@@ -323,8 +323,12 @@ public final class ArithmeticRows {
             return segments;
         }
 
+        private boolean has(int segment) {
+            return segment >= 0 && segment < segments && segment < MOST_SEGMENTS;
+        }
+
         boolean isPlain(int segment) {
-            return segment >= 0 && segment < segments && plain[segment];
+            return has(segment) && plain[segment];
         }
 
         void beginSegment(boolean asTheyAre) {
@@ -337,7 +341,7 @@ public final class ArithmeticRows {
         }
 
         int startOf(int segment) {
-            return segment >= 0 && segment < segments ? starts[segment] : size;
+            return has(segment) ? starts[segment] : size;
         }
 
         int endOf(int segment) {

@@ -43,6 +43,22 @@ public final class CodingEdgesTest {
         codes("A is 8000", "BBbAABBa", "", "c7bf");
     }
 
+    /** "a number A, at first 8000": with one more, the last bit but one here would leave its state as it is. */
+    private static void aIs8000AtFirst() {
+        due("A at first: the state", Play.coded(3, "BCBCBAACCABCBA").state(0, 0), 5);
+        codes("A at first", "BCBCBAACCABCBAa", "ff", "ff07");
+    }
+
+    /** "8000 or more": the last bit here leaves A at 7fff, which is renewed, and the state is the next one. */
+    private static void codedWithAOf7fff() {
+        ArithmeticRows x = Play.coded(2, "Aaaaabbb");
+        due("A is 7fff: the state before", x.state(0, 1), 4);
+        x.encode(1, 0);
+        due("A is 7fff: the next state", x.state(0, 1), 6);
+        codes("A is 7fff", "Aaaaabbbb", "", "b67f");
+        codes("A is 7fff, another behind it", "AaaaabbbbA", "", "b65f");
+    }
+
     /** "if A is below Q": with the second bit here it is Q, so it is not below. */
     private static void codedWithAOfQ() {
         codes("A is Q, likely", "bc", "", "7f");
@@ -283,6 +299,8 @@ public final class CodingEdgesTest {
     }
 
     public static void main(String[] args) {
+        aIs8000AtFirst();
+        codedWithAOf7fff();
         codedWithAOf8000();
         codedWithAOfQ();
         codedWithABelowQ();

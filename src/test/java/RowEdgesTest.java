@@ -444,12 +444,17 @@ public final class RowEdgesTest {
         Play.putBits(x, "100110010110");
         x.raw(false);
         Play.put(x, "CdCCd");
+        x.raw(true);
+        Play.putBits(x, "01101001");
         x.finish();
         due("some bits", Play.read(x, "Ab"), "Ab");
         due("on", x.raw(true), true);
         due("some raw bits", Play.readBits(x, 3), "100");
         due("on again", x.raw(false), true);
-        due("the last segment's bits", Play.read(x, "CdCCd"), "CdCCd");
+        due("the third one's bits", Play.read(x, "CdCCd"), "CdCCd");
+        due("on to the last", x.raw(true), true);
+        due("the last one's bits", Play.readBits(x, 8), "01101001");
+        due("all are its own", x.beyond(), 0);
     }
 
     // Promise 13.

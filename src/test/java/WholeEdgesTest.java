@@ -120,6 +120,15 @@ public final class WholeEdgesTest {
         sameAsWithOwnContexts("P of the largest", LARGEST, "0" + "11111" + LARGEST_32, path);
     }
 
+    /** "P, at first 1": behind seven bits it is 190, not what it is where the same seven come again. */
+    private static void pathAtFirst() {
+        String size = "01" + "00111110" + "00111110" + "00111110" + "001111";
+        int[] path = {
+            1, 2, 5, 11, 23, 47, 95, 190, 381, 506, 500, 489, 467, 423, 335, 415, 318, 380, 504, 497, 483, 455,
+            399, 287, 318, 380, 504, 497, 483, 455, 399, 287, 318, 380, 504, 497, 483, 455};
+        sameAsWithOwnContexts("P at first", Integer.parseInt(size, 2) + 4436, "0" + "11111" + size, path);
+    }
+
     /** What a set's contexts code is what own contexts with these numbers code, over and over again. */
     private static void sameAsWithOwnContexts(String what, int v, String bits, int[] path) {
         ArithmeticRows x = new ArithmeticRows(1);
@@ -178,6 +187,7 @@ public final class WholeEdgesTest {
         readPastTheEnd();
         pathOf4436();
         pathOfManyOnes();
+        pathAtFirst();
         setsOfTheirOwn();
         Check.end();
     }
