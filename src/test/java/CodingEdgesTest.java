@@ -102,6 +102,12 @@ public final class CodingEdgesTest {
         codes("carry", "CbbBCacCBBCACAc", "ba00", "ba008f");
     }
 
+    /** A byte 00 is a byte too, and the first one may be 1 more later: only when it is put out it never is. */
+    private static void carryInto00() {
+        codes("carry into 00 when it ends", "aCAcBAABccAcbc", "00", "0105");
+        codes("carry into 00", "aCAcBAABccAcbcC", "0105", "01059f");
+    }
+
     /** "2^27 or more": here C is 2^27 and no more. */
     private static void carryWithCOf2To27() {
         due("C is 2^27: the byte before it", Play.row(Play.coded(3, "ABbbABbcCCCBAACABAAbAC")), "d8");
@@ -307,6 +313,7 @@ public final class CodingEdgesTest {
         renewedTo8000();
         howManyRenewalsAByteTakes();
         carryIntoTheByteBefore();
+        carryInto00();
         carryWithCOf2To27();
         carryThatMakesFf();
         carryBehindFf();
