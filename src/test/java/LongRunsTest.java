@@ -101,7 +101,7 @@ public final class LongRunsTest {
         due("segments: a bit of the last one", x.decode(0), 1);
     }
 
-    // The room: what an object holds, and that calls make nothing beside it.
+    // The room: what an object holds, and that it holds the same arrays behind calls.
 
     private static boolean isOurs(Class<?> type) {
         return type == ArithmeticRows.class || type.getEnclosingClass() == ArithmeticRows.class;
